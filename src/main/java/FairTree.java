@@ -62,10 +62,10 @@ public final class FairTree {
     if (size == 0) {
       throw new NoSuchElementException();
     }
-    // The room left on each side is compared, as a key plus by could wrap around.
-    long roomBelow = -SLIDE_KEY_LIMIT - keyAt(0);
-    long roomAbove = SLIDE_KEY_LIMIT - keyAt(size - 1);
-    if (by < roomBelow || by > roomAbove) {
+    // The bounds are put on by itself, as a key plus by could wrap around.
+    long leastBy = -SLIDE_KEY_LIMIT - keyAt(0);
+    long mostBy = SLIDE_KEY_LIMIT - keyAt(size - 1);
+    if (by < leastBy || by > mostBy) {
       throw new IllegalArgumentException();
     }
     for (int place = 0; place < size; place++) {

@@ -68,7 +68,7 @@ public final class ModelTest {
     int n = number();
     long key = random.nextInt(30) == 0 ? edge() : key();
     long due = due();
-    int weight = random.nextInt(30) == 0 ? random.nextInt(3) * 1001 - 1 : weight();
+    int weight = random.nextInt(30) == 0 ? random.nextInt(2) * 1001 : weight();
     same("put(" + n + ", " + key + ", " + due + ", " + weight + ")",
         () -> model.put(n, key, due, weight), () -> tree.put(n, key, due, weight));
   }
@@ -130,7 +130,7 @@ public final class ModelTest {
 
   private long edge() {
     long[] edges = {PUT_LIMIT, SLIDE_LIMIT, SLIDE_LIMIT + PUT_LIMIT, Long.MAX_VALUE};
-    long edge = edges[random.nextInt(edges.length)] - 1 + random.nextInt(2);
+    long edge = edges[random.nextInt(edges.length)] - 1 + random.nextInt(3);
     return random.nextBoolean() ? edge : -edge;
   }
 }

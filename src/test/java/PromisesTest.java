@@ -209,6 +209,8 @@ public final class PromisesTest {
     tree.put(1, PUT_LIMIT, 0, 1);
     dueThrow("slide(-1) with two", ILLEGAL, () -> tree.slide(-1));
     dueThrow("slide(2^40 + 1) with two", ILLEGAL, () -> tree.slide(PUT_LIMIT + 1));
+    dueThrow("slide(most) with two", ILLEGAL, () -> tree.slide(Long.MAX_VALUE));
+    dueThrow("slide(least) with two", ILLEGAL, () -> tree.slide(Long.MIN_VALUE));
     due("slide(2^40) with two", -PUT_LIMIT, () -> tree.slide(PUT_LIMIT));
     due("told(1, 0)", SLIDE_LIMIT, () -> tree.told(1, 0));
   }
@@ -318,7 +320,8 @@ public final class PromisesTest {
     for (int n = 0; n < 199; n++) {
       tree.put(n, PUT_LIMIT, -n, 1000);
     }
-    tree.put(199, PUT_LIMIT - 1, 0, 1000);
+    // The others are above their share by 1 in some 2^58: a sum in doubles would not see it.
+    tree.put(199, PUT_LIMIT - 1, 0, 1);
     due("pick()", 199, () -> tree.pick());
     due("slide(2^40)", SLIDE_LIMIT - 1, () -> tree.slide(PUT_LIMIT));
     due("pick() after slide(2^40)", 199, () -> tree.pick());
