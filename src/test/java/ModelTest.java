@@ -2,7 +2,9 @@ import java.util.Random;
 
 /** Long runs of calls, drawn from fixed seeds, answered by FairTree and by the plain model alike. */
 public final class ModelTest {
+  /** What an object answers after so many calls is free. */
   private static final int CALLS = 512;
+  private static final int RUNS = 1600;
   private static final long PUT_LIMIT = 1L << 40;
   private static final long SLIDE_LIMIT = 1L << 41;
 
@@ -14,6 +16,7 @@ public final class ModelTest {
   private final int numbers;
   private final long keySpan;
   private final int dueSpan;
+  private int calls = 0;
 
   /** Small spans make equal keys and dues common, wide ones reach the limits of the document. */
   private ModelTest(long seed, int numbers, long keySpan, int dueSpan) {
@@ -29,7 +32,7 @@ public final class ModelTest {
     long[] keySpans = {2, 12, 1000, PUT_LIMIT};
     int[] dueSpans = {2, 1_000_000};
     boolean asDue = true;
-    for (long seed = 1; seed <= 320 && asDue; seed++) {
+    for (long seed = 1; seed <= RUNS && asDue; seed++) {
       int kind = (int) seed;
       asDue =
           new ModelTest(seed, numbers[kind % 4], keySpans[kind / 4 % 4], dueSpans[kind / 16 % 2])
@@ -43,11 +46,12 @@ public final class ModelTest {
 
   private boolean run() {
     int fill = random.nextInt(CALLS);
-    for (int call = 0; call < CALLS && checks.allAsDue(); call++) {
-      if (call < fill && random.nextInt(3) > 0) {
+    while (calls < CALLS && checks.allAsDue()) {
+      if (calls < fill && random.nextInt(6) > 0) {
         put();
-      } else {
+      } else if (random.nextInt(4) == 0) {
         change();
+      } else {
         ask();
       }
     }
@@ -55,12 +59,11 @@ public final class ModelTest {
   }
 
   private void change() {
-    switch (random.nextInt(12)) {
+    switch (random.nextInt(8)) {
       case 0, 1, 2 -> put();
       case 3, 4 -> drop();
       case 5, 6 -> slide();
-      case 7 -> cut();
-      default -> { }
+      default -> cut();
     }
   }
 
@@ -90,25 +93,42 @@ public final class ModelTest {
   }
 
   private void ask() {
+    if (random.nextInt(2) == 0) {
+      askOfOne();
+    } else {
+      askOfAll();
+    }
+  }
+
+  private void askOfOne() {
     int n = number();
     int what = random.nextInt(5) - 1;
+    switch (random.nextInt(5)) {
+      case 0 -> same("told(" + n + ", " + what + ")",
+          () -> model.told(n, what), () -> tree.told(n, what));
+      case 1 -> same("at(" + n + ")", () -> model.at(n), () -> tree.at(n));
+      case 2 -> same("rank(" + n + ")", () -> model.rank(n), () -> tree.rank(n));
+      case 3 -> same("ahead(" + n + ")", () -> model.ahead(n), () -> tree.ahead(n));
+      default -> same("count(" + what + ")", () -> model.count(what), () -> tree.count(what));
+    }
+  }
+
+  private void askOfAll() {
     long from = random.nextInt(20) == 0 ? edge() : key();
     long to = random.nextInt(20) == 0 ? edge() : key();
-    same("told(" + n + ", " + what + ")", () -> model.told(n, what), () -> tree.told(n, what));
-    same("at(" + n + ")", () -> model.at(n), () -> tree.at(n));
-    same("rank(" + n + ")", () -> model.rank(n), () -> tree.rank(n));
-    same("ahead(" + n + ")", () -> model.ahead(n), () -> tree.ahead(n));
-    same("earliest(" + from + ")", () -> model.earliest(from), () -> tree.earliest(from));
-    same("between(" + from + ", " + to + ")",
-        () -> model.between(from, to), () -> tree.between(from, to));
-    same("weight(" + from + ")", () -> model.weight(from), () -> tree.weight(from));
-    same("pick()", model::pick, tree::pick);
-    same("half()", model::half, tree::half);
-    same("nearest()", model::nearest, tree::nearest);
-    same("count(" + what + ")", () -> model.count(what), () -> tree.count(what));
+    switch (random.nextInt(6)) {
+      case 0 -> same("earliest(" + to + ")", () -> model.earliest(to), () -> tree.earliest(to));
+      case 1 -> same("between(" + from + ", " + to + ")",
+          () -> model.between(from, to), () -> tree.between(from, to));
+      case 2 -> same("weight(" + to + ")", () -> model.weight(to), () -> tree.weight(to));
+      case 3 -> same("pick()", model::pick, tree::pick);
+      case 4 -> same("half()", model::half, tree::half);
+      default -> same("nearest()", model::nearest, tree::nearest);
+    }
   }
 
   private void same(String call, Checks.Call due, Checks.Call got) {
+    calls++;
     checks.same(name + ": " + call, Checks.outcome(due), Checks.outcome(got));
   }
 

@@ -85,7 +85,7 @@ final class PlainModel {
   }
 
   int pick() {
-    return earliestOf(this::isFair);
+    return earliestOf(fair());
   }
 
   long ahead(int n) {
@@ -136,7 +136,7 @@ final class PlainModel {
       return allWeights().intValueExact();
     }
     if (what == 2) {
-      return (int) items.values().stream().filter(this::isFair).count();
+      return (int) items.values().stream().filter(fair()).count();
     }
     return -1;
   }
@@ -162,8 +162,10 @@ final class PlainModel {
         .number();
   }
 
-  private boolean isFair(Item item) {
-    return item.bigKey().multiply(allWeights()).compareTo(sum()) <= 0;
+  private Predicate<Item> fair() {
+    BigInteger all = allWeights();
+    BigInteger sum = sum();
+    return item -> item.bigKey().multiply(all).compareTo(sum) <= 0;
   }
 
   private BigInteger allWeights() {

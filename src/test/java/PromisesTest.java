@@ -1,16 +1,5 @@
-import java.util.NoSuchElementException;
-
 /** One method for each promise of the document: ordinary inputs, its edges and wrong inputs. */
-public final class PromisesTest {
-  private static final long PUT_LIMIT = 1_099_511_627_776L;
-  private static final long SLIDE_LIMIT = 2_199_023_255_552L;
-  private static final Class<NoSuchElementException> NO_SUCH = NoSuchElementException.class;
-  private static final Class<IllegalArgumentException> ILLEGAL = IllegalArgumentException.class;
-
-  private final Checks checks = new Checks();
-  private String promise = "";
-  private FairTree tree = new FairTree();
-
+public final class PromisesTest extends TreeChecks {
   public static void main(String[] args) {
     PromisesTest test = new PromisesTest();
     test.newObject();
@@ -36,29 +25,7 @@ public final class PromisesTest {
     test.nearest();
     test.cut();
     test.count();
-    test.checks.end();
-  }
-
-  private void start(String name) {
-    promise = name;
-    tree = new FairTree();
-  }
-
-  /** Order 7, 2, 5, 9: keys 10, 20, 20, 50; weights 4, 1, 2, 3; dues 6, 6, 1, 0. */
-  private void startWithFour(String name) {
-    start(name);
-    tree.put(5, 20, 1, 2);
-    tree.put(9, 50, 0, 3);
-    tree.put(7, 10, 6, 4);
-    tree.put(2, 20, 6, 1);
-  }
-
-  private void due(String call, long due, Checks.Call made) {
-    checks.due(promise + ": " + call, due, made);
-  }
-
-  private void dueThrow(String call, Class<? extends RuntimeException> due, Checks.Call made) {
-    checks.dueThrow(promise + ": " + call, due, made);
+    test.end();
   }
 
   private void newObject() {
@@ -100,14 +67,6 @@ public final class PromisesTest {
     dueItem(9, 3, 50, 0, 3);
     due("count(0)", 4, () -> tree.count(0));
     due("count(1)", 10, () -> tree.count(1));
-  }
-
-  private void dueItem(int n, int place, long key, long due, int weight) {
-    due("at(" + place + ")", n, () -> tree.at(place));
-    due("rank(" + n + ")", place, () -> tree.rank(n));
-    due("told(" + n + ", 0)", key, () -> tree.told(n, 0));
-    due("told(" + n + ", 1)", due, () -> tree.told(n, 1));
-    due("told(" + n + ", 2)", weight, () -> tree.told(n, 2));
   }
 
   private void put() {
