@@ -192,7 +192,7 @@ public final class FairTree {
     return keys[order[place]];
   }
 
-  /** Any pair may be asked for: number 0 leaves out the items of that very key, NUMBERS takes all. */
+  /** Any pair may be asked for: number 0 leaves out the items of that key, NUMBERS takes all. */
   private int placesBefore(long key, int number) {
     int places = 0;
     while (places < size && standsBefore(order[places], key, number)) {

@@ -1,6 +1,6 @@
 import java.util.Random;
 
-/** Long runs of calls, drawn from fixed seeds, answered by FairTree and by the plain model alike. */
+/** Runs of calls, drawn from fixed seeds, answered by FairTree and by the plain model alike. */
 public final class ModelTest {
   /** What an object answers after so many calls is free. */
   private static final int CALLS = 512;

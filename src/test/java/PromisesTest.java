@@ -61,12 +61,7 @@ public final class PromisesTest extends TreeChecks {
     dueThrow("told(5, 3)", ILLEGAL, () -> tree.told(5, 3));
     dueThrow("at(4)", NO_SUCH, () -> tree.at(4));
     dueThrow("between(51, 60)", NO_SUCH, () -> tree.between(51, 60));
-    dueItem(7, 0, 10, 6, 4);
-    dueItem(2, 1, 20, 6, 1);
-    dueItem(5, 2, 20, 1, 2);
-    dueItem(9, 3, 50, 0, 3);
-    due("count(0)", 4, () -> tree.count(0));
-    due("count(1)", 10, () -> tree.count(1));
+    dueTheFour();
   }
 
   private void put() {

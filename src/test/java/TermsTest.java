@@ -24,6 +24,7 @@ public final class TermsTest extends TreeChecks {
     test.fairWithKeysBelowZero();
     test.fairByWeights();
     test.fairOfEqualKeys();
+    test.fairBeyondAnInt();
     test.fairIsExactAtTheLimits();
     test.end();
   }
@@ -304,6 +305,26 @@ public final class TermsTest extends TreeChecks {
       due("slide(key)", 2 * key, () -> tree.slide(key));
       due("count(2) after slide(key)", 200, () -> tree.count(2));
       due("ahead(199) after slide(key)", 0, () -> tree.ahead(199));
+    }
+  }
+
+  /** Sums and products that an int could not hold, on either side of zero. */
+  private void fairBeyondAnInt() {
+    for (int shift = 20; shift <= 40; shift++) {
+      long key = 1L << shift;
+      start("FAIR with KEYS of 0 and " + key);
+      tree.put(1, 0, 0, 1000);
+      tree.put(2, key, 0, 1000);
+      tree.put(3, key / 2, 0, 1000);
+      due("count(2): 3 has just its share", 2, () -> tree.count(2));
+      due("ahead(1)", -key * 1500, () -> tree.ahead(1));
+      due("ahead(2)", key * 1500, () -> tree.ahead(2));
+      due("ahead(3)", 0, () -> tree.ahead(3));
+      tree.put(3, key / 2 + 1, 0, 1000);
+      due("count(2): 3 is above its share", 1, () -> tree.count(2));
+      tree.slide(-key - 1);
+      due("count(2) below zero", 1, () -> tree.count(2));
+      due("ahead(3) below zero", 2000, () -> tree.ahead(3));
     }
   }
 

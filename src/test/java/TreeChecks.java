@@ -4,6 +4,7 @@ import java.util.NoSuchElementException;
 abstract class TreeChecks {
   static final long PUT_LIMIT = 1_099_511_627_776L;
   static final long SLIDE_LIMIT = 2_199_023_255_552L;
+  static final long APART = SLIDE_LIMIT + PUT_LIMIT;
   static final long LEAST = Long.MIN_VALUE;
   static final long MOST = Long.MAX_VALUE;
   static final Class<NoSuchElementException> NO_SUCH = NoSuchElementException.class;
@@ -34,6 +35,15 @@ abstract class TreeChecks {
     for (int n = 199; n >= 0; n--) {
       tree.put(n, 2 * n, -n, 1000);
     }
+  }
+
+  /** Item 1 at -2^41 and item 0, which is earlier, at 2^40: no two KEYS can be further apart. */
+  final void startFarApart(String name) {
+    start(name);
+    tree.put(0, PUT_LIMIT, 0, 1);
+    tree.slide(PUT_LIMIT);
+    tree.put(1, -PUT_LIMIT, 1, 1000);
+    tree.slide(-PUT_LIMIT);
   }
 
   final void due(String call, long due, Checks.Call made) {
